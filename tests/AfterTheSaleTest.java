@@ -95,6 +95,12 @@ public final class AfterTheSaleTest {
         b.part(0, 5);
         due.is("nothing to round up", b.price(0), 100);
         due.is("nor in the reserve", b.rise(1, 0, 50), 0);
+
+        ClockAuctions c = withLots(1, 7, 2);
+        sellByClock(c, 0, 1, 5);
+        c.part(0, 3);
+        due.is("5 * 3 / 7: one over is rounded up", c.price(0), 3);
+        due.is("2 * 4 / 7: and so in the reserve", c.rise(1, 0, 1), 3);
     }
 
     private static void promise10Refused() {

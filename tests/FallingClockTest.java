@@ -132,6 +132,14 @@ public final class FallingClockTest {
         a.tick(1);
         due.is("the late press won", a.winner(0), 0);
         due.is("at the clock's first price", a.price(0), 200);
+
+        ClockAuctions b = hall();
+        b.start(0, 200, 10);
+        b.delay(3, 5000);
+        b.press(0, 1);
+        b.press(3, 10);
+        b.tick(1);
+        due.is("at least 0 is before 1", b.winner(0), 3);
     }
 
     private static void promise6DelayFromNowOn() {

@@ -89,7 +89,11 @@ public final class OffersTest {
         due.is("held(0)", a.held(0), 1000);
         due.is("another buyer", a.rise(0, 1, 1050), 0);
         due.is("the money is free again", a.rise(1, 0, 1000), 0);
-        due.is("another's offer is not his", a.rise(0, 0, 1103), 4);
+        due.is("and held by his new offer", a.rise(0, 0, 1103), 4);
+
+        ClockAuctions b = hall(0);
+        b.rise(0, 1, 990);
+        due.is("another's offer does not count as his", b.rise(0, 0, 1040), 4);
     }
 
     private static void promise14TakesThePlace() {
