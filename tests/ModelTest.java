@@ -1,9 +1,8 @@
 import java.util.Random;
 
-/** Long runs of chosen calls on the class and on the Model: every answer and all that can be seen is the same. */
+/** Long runs of calls on the class and on the Model: every answer and all that can be seen is the same. */
 public final class ModelTest {
     private static final int RUNS = 1500;
-    private static final int CALLS = 300;
     private static final long[] EDGES = {
         0, 1, -1, 2, 99, 100, 101, 9999, 10000, 10001, 1000000, 1000001, 1000000000L, 1000000001L,
         1000000000000L, 1000000000001L, 10000000, 20000000, 20000001, 262143, 262144,
@@ -11,36 +10,86 @@ public final class ModelTest {
 
     private static final Due due = new Due();
     private static Random random;
-    private static ClockAuctions real;
     private static Model model;
-    private static int lots;
-    private static int buyers;
-    private static String run;
+    private static int money;
 
     public static void main(String[] args) {
-        for (int r = 0; r < RUNS && due.wrong() == 0; r++) {
-            random = new Random(r);
-            real = new ClockAuctions();
+        for (int run = 0; run < RUNS && due.wrong() == 0; run++) {
+            random = new Random(run);
             model = new Model();
-            lots = 0;
-            buyers = 0;
-            for (int c = 0; c < CALLS; c++) {
-                run = "run " + r + ", call " + c + ": ";
-                call(c < 10 ? random.nextInt(2) : random.nextInt(26));
-                if (c % 15 == 14) {
-                    compareAll();
-                }
+            money = random.nextInt(3) == 0 ? 100000 : 400;
+            Story story = new Story("run " + run);
+            int length = 30 + random.nextInt(370);
+            for (int c = 0; c < length; c++) {
+                tell(story, next(c < 10 ? random.nextInt(2) : random.nextInt(27)));
             }
+            story.endsAs(model);
+            story.isDue(due);
         }
+        for (int run = 0; run < 20 && due.wrong() == 0; run++) {
+            fullHallThatPlays(run);
+        }
+        allCallsAreUsed();
         due.end();
     }
 
-    private static int lot() {
-        return random.nextInt(30) == 0 ? (int) edge() : random.nextInt(lots + 2) - (random.nextInt(20) == 0 ? 1 : 0);
+    private static void tell(Story story, Call call) {
+        story.add(call, call.on(model));
     }
 
-    private static int buyer() {
-        return random.nextInt(30) == 0 ? (int) edge() : random.nextInt(buyers + 1);
+    private static void fullHallThatPlays(int run) {
+        model = new Model();
+        Story story = new Story("full hall " + run);
+        for (int i = 0; i < 60; i++) {
+            tell(story, Call.lot(i % 3, 1 + i, run % 2 == 0 ? 100 * i : 0));
+        }
+        for (int i = 0; i < 30; i++) {
+            tell(story, Call.buyer(run % 3 == 0 ? 90000 : 1000000));
+        }
+        for (int i = 0; i < 100; i++) {
+            tell(story, Call.play(1000L * run + i, 200));
+        }
+        story.endsAs(model);
+        story.isDue(due);
+    }
+
+    /** The last of the calls that an object is promised for is as good as the first. */
+    private static void allCallsAreUsed() {
+        Story presses = begin("presses", 3);
+        tell(presses, Call.start(0, 90000, 1));
+        while (presses.length() < Counted.MOST_CALLS - 1) {
+            tell(presses, Call.press(presses.length() % 2, 8000000 - presses.length()));
+        }
+        presses.endsAs(model);
+        presses.isDue(due);
+        Story outages = begin("outages", 3);
+        tell(outages, Call.start(0, 90000, 1));
+        while (outages.length() < Counted.MOST_CALLS - 4) {
+            tell(outages, Call.tick(251));
+            tell(outages, Call.outage(101, true));
+            tell(outages, Call.outage(0, false));
+        }
+        outages.endsAs(model);
+        outages.isDue(due);
+        Story sets = begin("sets", 60);
+        while (sets.length() < Counted.MOST_CALLS - 4) {
+            tell(sets, Call.bid(sets.length() % 2, 10));
+            tell(sets, Call.on(0, sets.length() % 60));
+            tell(sets, Call.sets(2));
+        }
+        sets.endsAs(model);
+        sets.isDue(due);
+    }
+
+    private static Story begin(String name, int lots) {
+        model = new Model();
+        Story story = new Story(name);
+        for (int i = 0; i < lots; i++) {
+            tell(story, Call.lot(0, 10, 5));
+        }
+        tell(story, Call.buyer(100000));
+        tell(story, Call.buyer(100000));
+        return story;
     }
 
     private static long edge() {
@@ -52,143 +101,53 @@ public final class ModelTest {
         return random.nextInt(25) == 0 ? edge() : random.nextInt(bound);
     }
 
-    private static void same(String call, long got, long want) {
-        due.is(run + call, got, want);
+    private static int lot() {
+        return random.nextInt(30) == 0 ? (int) edge() : random.nextInt(model.lots() + 2) - random.nextInt(20) / 19;
     }
 
-    private static void same(String call, boolean got, boolean want) {
-        due.is(run + call, got, want);
+    private static int buyer() {
+        return random.nextInt(30) == 0 ? (int) edge() : random.nextInt(model.buyers() + 1);
     }
 
-    private static void call(int what) {
-        if (what < 2) {
-            callToAdd(what);
-        } else if (what < 16) {
-            callOnTheClock(what);
-        } else {
-            callOnOffersAndSets(what);
-        }
-    }
-
-    private static void callToAdd(int what) {
-        if (what == 0) {
-            int kind = (int) some(2);
-            long grams = some(12);
-            long reserve = some(60);
-            int got = real.lot(kind, grams, reserve);
-            same("lot(" + kind + ", " + grams + ", " + reserve + ")", got, model.lot(kind, grams, reserve));
-            lots += got == -1 ? 0 : 1;
-        } else {
-            long credit = some(400);
-            int got = real.buyer(credit);
-            same("buyer(" + credit + ")", got, model.buyer(credit));
-            buyers += got == -1 ? 0 : 1;
-        }
-    }
-
-    private static void callOnTheClock(int what) {
-        int lot = lot();
-        int buyer = buyer();
+    private static Call next(int what) {
         switch (what) {
-            case 2: case 3: case 4: {
-                long from = some(200);
-                long step = some(20);
-                same("start(" + lot + ", " + from + ", " + step + ")", real.start(lot, from, step), model.start(lot, from, step));
-                break;
-            }
-            case 5: case 6: case 7: case 8: {
-                long ms = random.nextBoolean() ? some(1500) : random.nextInt(4) * 100L;
-                same("press(" + buyer + ", " + ms + ")", real.press(buyer, ms), model.press(buyer, ms));
-                break;
-            }
-            case 9: {
-                long ms = some(random.nextBoolean() ? 300 : 5002);
-                same("delay(" + buyer + ", " + ms + ")", real.delay(buyer, ms), model.delay(buyer, ms));
-                break;
-            }
-            case 10: case 11: case 12: {
-                long ms = random.nextInt(3) == 0 ? some(11000) : random.nextInt(400);
-                same("tick(" + ms + ")", real.tick(ms), model.tick(ms));
-                break;
-            }
-            case 13: {
-                boolean on = random.nextBoolean();
-                long ms = on ? some(400) : some(3) / 2;
-                same("outage(" + ms + ", " + on + ")", real.outage(ms, on), model.outage(ms, on));
-                break;
-            }
-            case 14: {
-                long grams = some(12);
-                int got = real.part(lot, grams);
-                same("part(" + lot + ", " + grams + ")", got, model.part(lot, grams));
-                lots += got == -1 ? 0 : 1;
-                break;
-            }
+            case 0:
+                return Call.lot((int) some(3), some(12), some(60));
+            case 1:
+                return Call.buyer(some(money));
+            case 2: case 3: case 4:
+                return Call.start(lot(), some(200), some(20));
+            case 5: case 6: case 7: case 8:
+                return Call.press(buyer(), random.nextBoolean() ? some(1500) : random.nextInt(4) * 100L);
+            case 9:
+                return Call.delay(buyer(), some(random.nextBoolean() ? 300 : 5002));
+            case 10: case 11: case 12:
+                return Call.tick(random.nextInt(3) == 0 ? some(11000) : random.nextInt(400));
+            case 13:
+                return random.nextBoolean() ? Call.outage(some(400), true) : Call.outage(some(3) / 2, false);
+            case 14:
+                return Call.part(lot(), some(12));
+            case 15:
+                return Call.again(lot());
             default:
-                same("again(" + lot + ")", real.again(lot), model.again(lot));
-                break;
+                return nextOfOffersAndSets(what);
         }
     }
 
-    private static void callOnOffersAndSets(int what) {
-        int lot = lot();
-        int buyer = buyer();
+    private static Call nextOfOffersAndSets(int what) {
         switch (what) {
-            case 16: case 17: case 18: {
-                long cents = some(300);
-                same("rise(" + lot + ", " + buyer + ", " + cents + ")", real.rise(lot, buyer, cents), model.rise(lot, buyer, cents));
-                break;
-            }
-            case 19: {
-                long cents = some(100);
-                same("bid(" + buyer + ", " + cents + ")", real.bid(buyer, cents), model.bid(buyer, cents));
-                break;
-            }
-            case 20: case 21: case 22: {
-                int bid = (int) some(8);
-                same("on(" + bid + ", " + lot + ")", real.on(bid, lot), model.on(bid, lot));
-                break;
-            }
-            case 23: {
-                long nodes = random.nextInt(3) == 0 ? some(64) : 512;
-                same("sets(" + nodes + ")", real.sets(nodes), model.sets(nodes));
-                break;
-            }
+            case 16: case 17: case 18:
+                return Call.rise(lot(), buyer(), some(300));
+            case 19:
+                return Call.bid(buyer(), some(100));
+            case 20: case 21: case 22: case 23:
+                return Call.on((int) some(8), lot());
             case 24:
-                if (random.nextInt(4) == 0) {
-                    same("back(" + lot + ")", real.back(lot), model.back(lot));
-                }
-                break;
+                return Call.sets(random.nextInt(3) == 0 ? some(64) : 512);
+            case 25:
+                return random.nextInt(4) == 0 ? Call.back(lot()) : Call.again(lot());
             default:
-                same("tie(" + lot + ", 0)", real.tie(lot, 0), model.tie(lot, 0));
-                break;
-        }
-    }
-
-    private static void compareAll() {
-        same("clock()", real.clock(), model.clock());
-        same("sum()", real.sum(), model.sum());
-        same("proved()", real.proved(), model.proved());
-        same("chained()", real.chained(), true);
-        for (int i = -1; i <= 60; i++) {
-            same("winner(" + i + ")", real.winner(i), model.winner(i));
-            same("price(" + i + ")", real.price(i), model.price(i));
-            same("left(" + i + ")", real.left(i), model.left(i));
-            same("fee(" + i + ")", real.fee(i), model.fee(i));
-            same("order(0, " + i + ")", real.order(0, i), model.order(0, i));
-            same("order(1, " + i + ")", real.order(1, i), model.order(1, i));
-            for (int k = -1; k < 4; k++) {
-                same("tie(" + i + ", " + k + ")", real.tie(i, k), model.tie(i, k));
-            }
-        }
-        for (int b = -1; b <= 30; b++) {
-            same("held(" + b + ")", real.held(b), model.held(b));
-            same("wins(" + b + ")", real.wins(b), model.wins(b));
-        }
-        for (int k = -1; k <= 240; k++) {
-            for (int what = -1; what <= 5; what++) {
-                same("record(" + k + ", " + what + ")", real.record(k, what), model.record(k, what));
-            }
+                return random.nextInt(6) == 0 ? Call.play(some(1000), (int) some(201)) : Call.tick(1 + some(50));
         }
     }
 }

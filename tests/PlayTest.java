@@ -1,67 +1,171 @@
-/** Promise 28 (play): against the same turns called one by one. */
+/** Promise 28 (play): against the same turns called one by one, and its edges. */
 public final class PlayTest {
+    private static final int LOTS = 40;
+    private static final int BUYERS = 30;
+    private static final long SEED_FOR_ZERO = 88172645463325252L;
     private static final Due due = new Due();
 
     public static void main(String[] args) {
-        promise28Refused();
+        promise28Turns();
+        promise28RefusedPlaysNothing();
         promise28NothingToPlayWith();
-        promise28EachTurn(0, 88172645463325252L);
-        for (long seed = -40; seed < 40; seed++) {
-            promise28EachTurn(seed == 0 ? 99 : seed * 1234567891011L, seed == 0 ? 99 : seed * 1234567891011L);
-        }
-        promise28EachTurn(Long.MIN_VALUE, Long.MIN_VALUE);
-        promise28EachTurn(Long.MAX_VALUE, Long.MAX_VALUE);
+        promise28CountsWhatWasSoldBefore();
+        promise28SeedOf0();
+        promise28OneTurn();
+        promise28EachTurn();
+        promise28GoesOnFromWhatIs();
+        promise28OpenAgain();
         due.end();
     }
 
-    private static ClockAuctions hall() {
-        ClockAuctions a = new ClockAuctions();
-        for (int i = 0; i < 60; i++) {
+    private static Counted hall() {
+        Counted a = new Counted();
+        for (int i = 0; i < LOTS; i++) {
             a.lot(i % 10, 1 + i, 10L * i);
         }
-        for (int i = 0; i < 30; i++) {
+        for (int i = 0; i < BUYERS; i++) {
             a.buyer(60000 + 5000L * i);
         }
         return a;
     }
 
-    private static void promise28Refused() {
-        ClockAuctions a = hall();
-        due.is("turns 0", a.play(1, 0), -1);
-        due.is("turns -1", a.play(1, -1), -1);
-        due.is("turns 201", a.play(1, 201), -1);
-        due.is("nothing was played", a.clock(), -1);
-        due.is("turns 1", a.play(1, 1), 0);
-        due.is("turns 200", hall().play(1, 200) >= 0, true);
+    private static void promise28Turns() {
+        for (int turns : new int[] {0, -1, 201, 202, -200, Integer.MIN_VALUE, Integer.MAX_VALUE}) {
+            due.is("play(1, " + turns + ")", hall().play(1, turns), -1);
+        }
+        due.is("1 turn", hall().play(1, 1), 0);
+        due.is("200 turns", new Counted().play(1, 200), 0);
+    }
+
+    private static void promise28RefusedPlaysNothing() {
+        for (int turns : new int[] {0, -1, 201, Integer.MIN_VALUE, Integer.MAX_VALUE}) {
+            for (long seed = 1; seed < 40; seed++) {
+                Counted a = hall();
+                a.play(seed, turns);
+                due.is("clock()", a.clock(), -1);
+                due.is("record(0, 0)", a.record(0, 0), -1);
+                due.is("the next turn is the first", lookAt(played(a, seed, 1)), lookAt(played(hall(), seed, 1)));
+            }
+        }
+    }
+
+    private static long lookAt(Counted a) {
+        long look = a.clock();
+        for (int lot = 0; lot < LOTS; lot++) {
+            look = 31 * look + a.price(lot);
+        }
+        return look;
     }
 
     private static void promise28NothingToPlayWith() {
-        due.is("no lots, no buyers", new ClockAuctions().play(7, 200), 0);
-        ClockAuctions a = new ClockAuctions();
+        Counted a = new Counted();
+        for (long seed : new long[] {0, 1, -1, Long.MIN_VALUE, Long.MAX_VALUE}) {
+            due.is("no lots, no buyers, seed " + seed, a.play(seed, 200), 0);
+        }
+        due.is("no record", a.record(0, 0), -1);
+    }
+
+    private static void promise28CountsWhatWasSoldBefore() {
+        Counted a = new Counted();
+        a.lot(0, 1, 0);
         a.lot(0, 1, 0);
         a.buyer(5);
         a.rise(0, 0, 5);
         a.tick(10000);
-        due.is("what was SOLD before counts too", a.play(7, 1), 1);
+        a.bid(0, 0);
+        due.is("one is SOLD", a.play(7, 1), 1);
+        due.is("refused though one is SOLD", a.play(7, 0), -1);
+        due.is("refused though one is SOLD", a.play(7, 201), -1);
     }
 
-    private static void promise28EachTurn(long seed, long first) {
-        ClockAuctions played = hall();
-        ClockAuctions called = hall();
-        for (int turns : new int[] {1, 2, 17, 200, 200}) {
-            long x = first;
-            for (int t = 0; t < turns; t++) {
-                x = x ^ x << 13;
-                x = x ^ x >>> 7;
-                x = x ^ x << 17;
-                callTurn(called, x >>> 1);
-            }
-            due.is("play(" + seed + ", " + turns + ")", played.play(seed, turns), sold(called));
-            compare("seed " + seed, played, called);
+    private static void promise28SeedOf0() {
+        compare("0 is " + SEED_FOR_ZERO, played(hall(), 0, 200), played(hall(), SEED_FOR_ZERO, 200));
+        compare("seed 0, called one by one", played(hall(), 0, 200), called(hall(), SEED_FOR_ZERO, 200));
+        due.holds("seed 1 is another", lookAt(played(hall(), 1, 200)) != lookAt(played(hall(), 0, 200)));
+    }
+
+    private static void promise28OneTurn() {
+        for (long seed = 1; seed < 500; seed++) {
+            compare("one turn of " + seed, played(hall(), seed, 1), called(hall(), seed, 1));
         }
     }
 
-    private static void callTurn(ClockAuctions a, long n) {
+    private static void promise28EachTurn() {
+        for (long s = 1; s < 150; s++) {
+            long seed = s * 1234567891011121L * (s % 2 == 0 ? 1 : -1);
+            int turns = s % 3 == 0 ? 200 : (int) (1 + s * 31 % 200);
+            compare("seed " + seed, played(hall(), seed, turns), called(hall(), seed, turns));
+        }
+        for (long seed : new long[] {1, -1, Long.MIN_VALUE, Long.MAX_VALUE}) {
+            compare("seed " + seed, played(hall(), seed, 200), called(hall(), seed, 200));
+        }
+    }
+
+    private static void promise28GoesOnFromWhatIs() {
+        for (long seed = 1; seed < 60; seed++) {
+            Counted a = hall();
+            Counted b = hall();
+            for (int part = 0; part < 3; part++) {
+                played(a, seed + 100 * part, 60);
+                called(b, seed + 100 * part, 60);
+            }
+            compare("three times from " + seed, a, b);
+        }
+    }
+
+    private static Counted unsoldLots() {
+        Counted a = new Counted();
+        for (int i = 0; i < 30; i++) {
+            a.lot(i % 10, 1 + i, 10L * i);
+            a.start(i, 10L * i, 1);
+            a.tick(100);
+        }
+        a.buyer(60000);
+        return a;
+    }
+
+    private static void promise28OpenAgain() {
+        int opened = 0;
+        for (long seed = 1; seed < 60; seed++) {
+            Counted played = played(unsoldLots(), seed, 100);
+            for (int k = 30; played.record(k, 0) != -1; k++) {
+                opened += played.record(k, 0) == 6 ? 1 : 0;
+            }
+            compare("UNSOLD lots, seed " + seed, played, called(unsoldLots(), seed, 100));
+        }
+        due.holds("lots were opened again", opened > 100);
+    }
+
+    private static Counted played(Counted a, long seed, int turns) {
+        int want = -1;
+        int got = a.play(seed, turns);
+        if (got >= 0) {
+            want = sold(a);
+        }
+        due.is("play(" + seed + ", " + turns + ")", got, want);
+        return a;
+    }
+
+    private static int sold(Counted a) {
+        int count = 0;
+        for (int i = 0; i < LOTS; i++) {
+            count += a.fee(i) == -1 ? 0 : 1;
+        }
+        return count;
+    }
+
+    private static Counted called(Counted a, long seed, int turns) {
+        long x = seed;
+        for (int t = 0; t < turns; t++) {
+            x = x ^ x << 13;
+            x = x ^ x >>> 7;
+            x = x ^ x << 17;
+            callTurn(a, x >>> 1);
+        }
+        return a;
+    }
+
+    private static void callTurn(Counted a, long n) {
         int i = (int) (n / 6 % 64);
         long v = n / 384 % 100000;
         int what = (int) (n % 6);
@@ -82,22 +186,17 @@ public final class PlayTest {
         }
     }
 
-    private static int sold(ClockAuctions a) {
-        int count = 0;
-        for (int i = 0; i < 60; i++) {
-            count += a.fee(i) == -1 ? 0 : 1;
-        }
-        return count;
-    }
-
-    private static void compare(String run, ClockAuctions played, ClockAuctions called) {
+    private static void compare(String run, Counted played, Counted called) {
         due.is(run + ": clock", played.clock(), called.clock());
-        for (int i = 0; i < 60; i++) {
+        for (int i = 0; i < LOTS; i++) {
             due.is(run + ": winner(" + i + ")", played.winner(i), called.winner(i));
             due.is(run + ": price(" + i + ")", played.price(i), called.price(i));
         }
-        for (int k = 0; k < 240; k++) {
+        for (int k = 0; k < LOTS; k++) {
             due.is(run + ": record(" + k + ", 4)", played.record(k, 4), called.record(k, 4));
         }
+        due.is(run + ": a press", played.press(0, 100), called.press(0, 100));
+        due.is(run + ": the next tick", played.tick(10), called.tick(10));
+        due.is(run + ": the clock then", played.clock(), called.clock());
     }
 }

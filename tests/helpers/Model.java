@@ -8,7 +8,7 @@ import java.util.TreeMap;
  * The document once more, in another and plainer form than the class: what is held is booked as it
  * changes, presses are a list that is sorted and gone through, sets are all looked at.
  */
-final class Model {
+final class Model implements Auctions {
     static final class Lot {
         int kind;
         long grams;
@@ -52,7 +52,12 @@ final class Model {
     }
 
     private boolean is(int lot, String... states) {
-        return List.of(states).contains(lots.get(lot).state);
+        for (String state : states) {
+            if (state.equals(lots.get(lot).state)) {
+                return true;
+            }
+        }
+        return false;
     }
 
     private void book(int buyer, long cents) {
@@ -69,7 +74,8 @@ final class Model {
         return a * b % c == 0 ? a * b / c : a * b / c + 1;
     }
 
-    int lot(int kind, long grams, long reserve) {
+    @Override
+    public int lot(int kind, long grams, long reserve) {
         if (lots.size() == 60 || kind < 0 || kind > 9 || grams < 1 || grams > 1000000000L) {
             return -1;
         }
@@ -84,7 +90,8 @@ final class Model {
         return lots.size() - 1;
     }
 
-    int buyer(long cents) {
+    @Override
+    public int buyer(long cents) {
         if (free.size() == 30 || cents < 0 || cents > 1000000000000L) {
             return -1;
         }
@@ -94,7 +101,8 @@ final class Model {
         return free.size() - 1;
     }
 
-    int start(int lot, long price, long fall) {
+    @Override
+    public int start(int lot, long price, long fall) {
         if (!isLot(lot) || !is(lot, "OPEN") || on != -1) {
             return -1;
         }
@@ -120,7 +128,8 @@ final class Model {
         return (int) t;
     }
 
-    boolean press(int buyer, long ms) {
+    @Override
+    public boolean press(int buyer, long ms) {
         if (!isBuyer(buyer) || on == -1 || stands || ms < 0 || ms > 20000000) {
             return false;
         }
@@ -132,7 +141,8 @@ final class Model {
         return true;
     }
 
-    boolean delay(int buyer, long ms) {
+    @Override
+    public boolean delay(int buyer, long ms) {
         if (!isBuyer(buyer) || ms < 0 || ms > 5000) {
             return false;
         }
@@ -140,7 +150,8 @@ final class Model {
         return true;
     }
 
-    int tick(long ms) {
+    @Override
+    public int tick(long ms) {
         if (ms < 1 || ms > 1000000) {
             return -1;
         }
@@ -194,15 +205,18 @@ final class Model {
         return 2;
     }
 
-    int winner(int lot) {
+    @Override
+    public int winner(int lot) {
         return isLot(lot) ? lots.get(lot).who : -1;
     }
 
-    long price(int lot) {
+    @Override
+    public long price(int lot) {
         return isLot(lot) ? lots.get(lot).cents : -1;
     }
 
-    int part(int lot, long grams) {
+    @Override
+    public int part(int lot, long grams) {
         if (!isLot(lot) || !lots.get(lot).byClock || lots.get(lot).parted) {
             return -1;
         }
@@ -221,11 +235,13 @@ final class Model {
         return made;
     }
 
-    long left(int lot) {
+    @Override
+    public long left(int lot) {
         return isLot(lot) ? lots.get(lot).grams : -1;
     }
 
-    boolean outage(long ms, boolean goesOut) {
+    @Override
+    public boolean outage(long ms, boolean goesOut) {
         if (on == -1 || stands == goesOut || ms < 0 || ms > (goesOut ? time : 0)) {
             return false;
         }
@@ -238,11 +254,13 @@ final class Model {
         return true;
     }
 
-    long clock() {
+    @Override
+    public long clock() {
         return on == -1 ? -1 : from - step * (time / 100);
     }
 
-    int rise(int lot, int buyer, long cents) {
+    @Override
+    public int rise(int lot, int buyer, long cents) {
         if (!isLot(lot) || !isBuyer(buyer)) {
             return 1;
         }
@@ -268,7 +286,8 @@ final class Model {
         return 0;
     }
 
-    int bid(int buyer, long cents) {
+    @Override
+    public int bid(int buyer, long cents) {
         if (!isBuyer(buyer) || bidBuyer.size() == 18 || cents < 0 || cents > 1000000000000L) {
             return -1;
         }
@@ -278,7 +297,8 @@ final class Model {
         return bidBuyer.size() - 1;
     }
 
-    boolean on(int bid, int lot) {
+    @Override
+    public boolean on(int bid, int lot) {
         if (bid < 0 || bid >= bidBuyer.size() || !isLot(lot) || bidLots.get(bid).contains(lot) || !is(lot, "OPEN")) {
             return false;
         }
@@ -287,7 +307,8 @@ final class Model {
         return true;
     }
 
-    int sets(long nodes) {
+    @Override
+    public int sets(long nodes) {
         int n = bidBuyer.size();
         stood = n > 0 && nodes >= Math.pow(2, n);
         if (!stood) {
@@ -361,23 +382,28 @@ final class Model {
         return false;
     }
 
-    boolean wins(int bid) {
+    @Override
+    public boolean wins(int bid) {
         return won.contains(bid);
     }
 
-    long sum() {
+    @Override
+    public long sum() {
         return wonSum;
     }
 
-    boolean proved() {
+    @Override
+    public boolean proved() {
         return stood;
     }
 
-    long held(int buyer) {
+    @Override
+    public long held(int buyer) {
         return isBuyer(buyer) ? credit.get(buyer) - free.get(buyer) : -1;
     }
 
-    int again(int lot) {
+    @Override
+    public int again(int lot) {
         if (!isLot(lot) || !is(lot, "UNSOLD") || lots.get(lot).reopened) {
             return -1;
         }
@@ -389,18 +415,21 @@ final class Model {
         return 1;
     }
 
-    long fee(int lot) {
+    @Override
+    public long fee(int lot) {
         return isLot(lot) && is(lot, "SOLD") ? up(lots.get(lot).cents, 1, 50) + 30 : -1;
     }
 
-    int record(int k, int what) {
+    @Override
+    public int record(int k, int what) {
         if (k < 0 || k >= records.size() || what < 0 || what > 4) {
             return -1;
         }
         return (int) (records.get(k)[what] % 1000000000L);
     }
 
-    int order(int kind, int k) {
+    @Override
+    public int order(int kind, int k) {
         List<Integer> open = new ArrayList<>();
         for (int i = 0; i < lots.size(); i++) {
             if (is(i, "OPEN") && lots.get(i).kind == kind) {
@@ -411,7 +440,8 @@ final class Model {
         return k < 0 || k >= open.size() ? -1 : open.get(k);
     }
 
-    int back(int lot) {
+    @Override
+    public int back(int lot) {
         if (!isLot(lot) || !is(lot, "OPEN", "OFFERED", "UNSOLD")) {
             return -1;
         }
@@ -426,7 +456,61 @@ final class Model {
         return 1;
     }
 
-    int tie(int lot, int k) {
+    @Override
+    public int tie(int lot, int k) {
         return !isLot(lot) || k < 0 || k >= lots.get(lot).tie.size() ? -1 : lots.get(lot).tie.get(k);
+    }
+
+    @Override
+    public boolean chained() {
+        return true;
+    }
+
+    @Override
+    public int play(long seed, int turns) {
+        if (turns < 1 || turns > 200) {
+            return -1;
+        }
+        long x = seed == 0 ? 88172645463325252L : seed;
+        for (int turn = 0; turn < turns; turn++) {
+            x = x ^ (x << 13);
+            x = x ^ (x >>> 7);
+            x = x ^ (x << 17);
+            long n = x >>> 1;
+            playTurn((int) (n % 6), (int) (n / 6 % 64), n / 384 % 100000);
+        }
+        int sold = 0;
+        for (int lot = 0; lot < lots.size(); lot++) {
+            sold += is(lot, "SOLD") ? 1 : 0;
+        }
+        return sold;
+    }
+
+    private void playTurn(int what, int i, long v) {
+        if (what == 0) {
+            press(i % 32, v % 3000);
+        } else if (what == 1) {
+            tick(1 + v % 500);
+        } else if (what == 2) {
+            start(i, v, 1 + v % 97 * 5);
+        } else if (what == 3) {
+            rise(i, (int) (v % 32), v);
+        } else if (what == 5) {
+            again(i);
+        } else if (!outage(0, true)) {
+            outage(0, false);
+        }
+    }
+
+    int lots() {
+        return lots.size();
+    }
+
+    int buyers() {
+        return free.size();
+    }
+
+    int records() {
+        return records.size();
     }
 }
